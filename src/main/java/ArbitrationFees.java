@@ -1374,9 +1374,6 @@ public final class ArbitrationFees {
         private void parseCommand(int command) {
             int kind = signAhead();
             kinds[command] = kind;
-            firsts[command] = 0;
-            seconds[command] = 0;
-            amounts[command] = 0;
             if (!isKind(kind)) {
                 isRight = false;
                 return;

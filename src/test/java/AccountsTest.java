@@ -57,6 +57,25 @@ public final class AccountsTest {
         }
         x.undo();
         Check.due("the journal is remembered", x.entry(0, true), 1003);
+        for (int i = 0; i < 16; i++) {
+            if (i % 3 == 0) {
+                x.call(7);
+            } else {
+                x.pay(0, 7);
+            }
+        }
+        for (int i = 0; i < 16; i++) {
+            Check.due("kind of " + i, x.entry(i, false), i % 3 == 0 ? 4 : 5);
+        }
+        x.takeFees();
+        for (int i = 0; i < 15; i++) {
+            Check.due("kind of " + i, x.entry(i, false), (i + 1) % 3 == 0 ? 4 : 5);
+        }
+        Check.due("the latest kind", x.entry(15, false), 6);
+        x.undo();
+        for (int i = 0; i < 16; i++) {
+            Check.due("kind of " + i + " after undo", x.entry(i, false), i % 3 == 0 ? 4 : 5);
+        }
     }
 
     private static void promise33Kinds() {

@@ -4,6 +4,7 @@ public final class DebtsTest {
         promise22Owed();
         promise23Debt();
         promise23Numbers();
+        promise23ThirtyDebts();
         promise24Settle();
         promise24InterestFirst();
         promise25Offset();
@@ -15,6 +16,7 @@ public final class DebtsTest {
         promise28Net();
         promise29GrowsTo();
         promise29LookAhead();
+        promise29LastUnits();
         promise30Pass();
         promise30LastDay();
         promise31GoOn();
@@ -82,6 +84,37 @@ public final class DebtsTest {
         Check.due("anew: the units are forgotten", x.debt(2, 4), 0);
     }
 
+    private static void promise23ThirtyDebts() {
+        ArbitrationFees x = Check.withParties(0, 1, 0, 1, 0, 1);
+        for (int far = 1; far < 6; far++) {
+            x.call(6000);
+            for (int i = 0; i < 6; i++) {
+                Check.due("payFor", x.payFor((i + far) % 6, i), 1000);
+            }
+        }
+        Check.due("debts", x.account(2), 30);
+        Check.due("all that is owed", x.account(3), 30000);
+        Check.due("what one owes", x.party(3, 9), 5000);
+        Check.due("what is owed to one", x.party(5, 10), 5000);
+        Check.due("the last debt", x.debt(29, 0) * 10 + x.debt(29, 1), 54);
+        x.setRate(0, 360);
+        // 3.6 percent of 1000 for a year
+        Check.due("all of them grow", x.pass(360), 30 * 36);
+        Check.due("the first one ends", x.settle(0, 1, 1036), 0);
+        Check.due("the last debt", x.debt(28, 0) * 10 + x.debt(28, 1), 54);
+        Check.due("the last one ends", x.settle(5, 4, 1036), 0);
+        Check.thrown("the last one has ended", Check.INDEX, () -> x.debt(28, 0));
+        x.goOn();
+        Check.owe(x, 0, 1, 7);
+        Check.due("anew", x.debt(28, 0) * 10 + x.debt(28, 1), 1);
+        ringIs(x, 0, 1);
+        // 13 pairs of 1036, and 7 of 0 and 1; then what is left is 1029 from 1 to 0, and 1036 from 4 to 5
+        Check.due("clearRings()", x.clearRings(), 2 * (13 * 1036 + 7));
+        Check.due("debts", x.account(2), 2);
+        Check.due("1 to 0", x.owed(1, 0), 1029);
+        Check.due("4 to 5", x.owed(4, 5), 1036);
+    }
+
     private static void promise24Settle() {
         ArbitrationFees x = inStage1(0, 1);
         Check.owe(x, 0, 1, 500);
@@ -133,8 +166,14 @@ public final class DebtsTest {
         Check.due("kind", x.entry(2, false), 9);
         Check.due("amount", x.entry(2, true), 70);
         Check.thrown("entered once", Check.NONE, () -> x.entry(3, true));
-        Check.owe(x, 1, 0, 9970);
-        Check.due("both end", x.offset(1, 0), 9970);
+        Check.owe(x, 1, 0, 1);
+        Check.due("one cent", x.offset(0, 1), 1);
+        Check.owe(x, 1, 0, 9968);
+        Check.due("all but one cent", x.offset(1, 0), 9968);
+        Check.owe(x, 1, 0, 2);
+        Check.due("the last cent", x.offset(1, 0), 1);
+        Check.owe(x, 0, 1, 1);
+        Check.due("both end", x.offset(1, 0), 1);
         Check.due("no debts", x.account(2), 0);
     }
 
@@ -297,6 +336,23 @@ public final class DebtsTest {
         Check.due("in the present stage", x.growsTo(0, 9000 + 3650 + 3), 2);
         x.settle(0, 1, 3650);
         Check.due("what is paid counts no more", x.growsTo(0, 9003), 2);
+    }
+
+    private static void promise29LastUnits() {
+        ArbitrationFees x = inStage1(0, 1);
+        Check.owe(x, 0, 1, 3599999);
+        x.setRate(1, 1);
+        x.pass(1);
+        Check.due("one unit is missing", x.debt(0, 4), 3599999);
+        Check.due("one unit is missing", x.growsTo(0, 3600000), 1);
+        Check.due("a day and a unit", x.growsTo(0, 3600001), 2);
+        ArbitrationFees y = inStage1(0, 1);
+        Check.owe(y, 0, 1, 1);
+        y.setRate(1, 2000);
+        y.pass(999);
+        y.pass(800);
+        y.setRate(1, 1);
+        Check.due("2000 units at one a day", y.growsTo(0, 2), 2000);
     }
 
     private static void promise30Pass() {

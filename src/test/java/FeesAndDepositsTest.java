@@ -212,6 +212,10 @@ public final class FeesAndDepositsTest {
         Check.due("owed on the same side", x.owed(2, 0), 250);
         x.call(1000);
         Check.due("again", x.payFor(0, 1), 500);
+        x.pay(0, 499);
+        Check.due("one cent", x.payFor(2, 0), 1);
+        Check.due("one cent", x.owed(0, 2), 1);
+        x.settle(0, 2, 1);
         Check.due("the debt has grown", x.owed(1, 0), 800);
         Check.due("the debt is the same one", x.debt(0, 2), 800);
         Check.due("debts", x.account(2), 2);

@@ -4,6 +4,7 @@ public final class PartiesAndRatesTest {
         promise1NewObject();
         promise2Clear();
         promise2ClearKeepsSomeThings();
+        promise2NothingOfOldRowsStays();
         promise3AddParty();
         promise3SixParties();
         promise4SetRate();
@@ -69,7 +70,10 @@ public final class PartiesAndRatesTest {
             x.setTier(i, 7);
         }
         x.goOn();
-        Check.owe(x, 0, 1, 500);
+        x.claim(1, 0, 500);
+        x.award(0, 300);
+        x.dismiss(0, 50);
+        x.withdraw(0, 20);
         x.call(1000);
         x.pay(0, 2000);
         x.takeFees();
@@ -84,6 +88,9 @@ public final class PartiesAndRatesTest {
         x.addParty(0, 1);
         Check.due("claim after clear", x.claim(0, 1, 9), 0);
         Check.due("left of the claim after clear", x.claimed(0, 6), 9);
+        for (int what = 3; what <= 5; what++) {
+            Check.due("claimed(0, " + what + ") after clear", x.claimed(0, what), 0);
+        }
         Check.due("clear() again", x.clear(), 2);
     }
 
@@ -101,6 +108,76 @@ public final class PartiesAndRatesTest {
         Check.due("the input after clear", x.append('g'), 3);
         Check.due("restore() after clear", x.restore(), 1);
         Check.due("parties after restore", x.account(0), 2);
+    }
+
+    /** Six parties, twelve claims, entries and debts, with amounts everywhere. */
+    private static ArbitrationFees full() {
+        ArbitrationFees x = Check.withParties(0, 1, 1, 0, 1, 0);
+        for (int i = 0; i < 12; i++) {
+            x.claim(i % 2 == 0 ? 0 : 1, i % 2 == 0 ? 1 : 0, 1000 + i);
+        }
+        x.goOn();
+        for (int i = 0; i < 12; i++) {
+            x.award(i, 100 + i);
+            x.dismiss(i, 50);
+            x.withdraw(i, 7);
+        }
+        x.call(6000);
+        for (int i = 0; i < 6; i++) {
+            x.payFor(i, (i + 1) % 6);
+        }
+        for (int i = 0; i < 6; i++) {
+            x.pay(i, 5000);
+        }
+        x.takeFees();
+        x.pass(999);
+        x.goOn();
+        x.goOn();
+        x.giveBack();
+        return x;
+    }
+
+    private static void promise2NothingOfOldRowsStays() {
+        ArbitrationFees x = full();
+        Check.due("debts of the full one", x.account(2), 7);
+        Check.due("paid in the full one", x.account(4), 36000);
+        Check.due("taken in the full one", x.account(5), x.fees(-1));
+        Check.due("returned in the full one", x.account(6), 36000 - x.fees(-1));
+        Check.due("lost in the full one", x.side(0, 0) + x.side(1, 0), 12 * 150 + 66);
+        Check.due("left in the full one", x.account(10), 12 * 843);
+        Check.due("in dispute in the full one", x.inDispute(), 12 * 993 + 66);
+        Check.due("parties of both sides", x.side(0, 2) * 10 + x.side(1, 2), 33);
+        Check.due("weights of both sides", x.side(0, 3) * 10 + x.side(1, 3), 33);
+        Check.dueDouble("quota of side 0", x.quota(0), (6 * 100 + 30) / (6 * 993 + 30.0));
+        Check.dueDouble("quota of side 1", x.quota(1), (6 * 100 + 36) / (6 * 993 + 36.0));
+        x.clear();
+        x.addParty(1, 2);
+        x.addParty(0, 3);
+        x.setTier(0, 0);
+        Check.due("called", x.call(101), 101);
+        Check.due("short", x.account(11), 101);
+        Check.due("claim", x.claim(1, 0, 100), 0);
+        Check.due("parties", x.side(0, 2) + x.side(1, 2), 2);
+        Check.due("weights", x.side(0, 3) * 10 + x.side(1, 3), 32);
+        Check.due("lost", x.side(0, 0) + x.side(1, 0), 0);
+        Check.due("in dispute", x.inDispute(), 100);
+        Check.due("share", x.party(0, 7), 2500);
+        Check.due("share", x.party(1, 7), 2500);
+        x.goOn();
+        Check.due("award", x.award(0, 40), 60);
+        Check.dueDouble("quota", x.quota(0), 0.4);
+        Check.thrown("no quota of the other side", Check.ARITHMETIC, () -> x.quota(1));
+        Check.due("owed in all", x.account(3), 40);
+        Check.due("owed to the party", x.party(1, 10), 40);
+        Check.due("owed by the party", x.party(0, 9), 40);
+        Check.due("paid", x.pay(0, 9000), 9000);
+        Check.due("taken", x.takeFees(), 5000);
+        Check.due("left", x.account(10), 60);
+        x.goOn();
+        x.goOn();
+        Check.due("returned", x.giveBack(), 4000);
+        Check.thrown("no ring", Check.NONE, () -> x.ring(0));
+        Check.due("interest of one debt alone", x.pass(999), 9);
     }
 
     private static void promise3AddParty() {

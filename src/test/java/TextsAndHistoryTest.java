@@ -11,9 +11,11 @@ public final class TextsAndHistoryTest {
         promise37Kept();
         promise38Undo();
         promise38Changes();
+        promise38Rates();
         promise38NoChanges();
         promise39Save();
         promise40Restore();
+        promise40OtherRows();
         Check.end();
     }
 
@@ -260,6 +262,25 @@ public final class TextsAndHistoryTest {
         }
     }
 
+    private static void promise38Rates() {
+        ArbitrationFees x = new ArbitrationFees();
+        for (int i = 0; i < 4; i++) {
+            int before = x.setRate(i, 11 + i);
+            x.undo();
+            Check.due("the rate is undone", x.setRate(i, 22 + i), before);
+            int tier = x.setTier(i, 33 + i);
+            x.undo();
+            Check.due("the rate of a tier is undone", x.setTier(i, 44 + i), tier);
+        }
+        x.save();
+        x.clear();
+        x.restore();
+        for (int i = 0; i < 4; i++) {
+            Check.due("the rate is saved", x.setRate(i, 0), 22 + i);
+            Check.due("the rate of a tier is saved", x.setTier(i, 0), 44 + i);
+        }
+    }
+
     private interface Step {
         void take(ArbitrationFees x);
     }
@@ -414,6 +435,28 @@ public final class TextsAndHistoryTest {
         x.clear();
         Check.due("restore() after clear", x.restore(), 1);
         Check.due("what came after it is not saved", x.account(4), 0);
+    }
+
+    private static void promise40OtherRows() {
+        ArbitrationFees x = new ArbitrationFees();
+        x.addParty(0, 2);
+        x.addParty(1, 3);
+        x.claim(1, 0, 40);
+        x.save();
+        x.clear();
+        x.addParty(1, 5);
+        x.addParty(0, 6);
+        x.addParty(1, 7);
+        x.claim(1, 2, 70);
+        x.claim(1, 2, 80);
+        x.restore();
+        Check.due("parties", x.account(0), 2);
+        Check.due("sides", x.party(0, 0) * 10 + x.party(1, 0), 1);
+        Check.due("weights", x.party(0, 1) * 10 + x.party(1, 1), 23);
+        Check.due("claims", x.account(1), 1);
+        Check.due("of whom", x.claimed(0, 0), 1);
+        Check.due("against whom", x.claimed(0, 1), 0);
+        Check.due("amount", x.claimed(0, 2), 40);
     }
 
     private static void promise40Restore() {
