@@ -718,8 +718,8 @@ public final class ArbitrationFees {
         }
 
         private long clearRing(RingFinder rings) {
-            long least = Long.MAX_VALUE;
-            for (int i = 0; i < rings.length; i++) {
+            long least = debts.owedBy(rings.row[0], rings.memberAfter(0));
+            for (int i = 1; i < rings.length; i++) {
                 least = Math.min(least, debts.owedBy(rings.row[i], rings.memberAfter(i)));
             }
             for (int i = 0; i < rings.length; i++) {
@@ -1071,7 +1071,8 @@ public final class ArbitrationFees {
         static final int PRINCIPAL = 2;
         static final int INTEREST = 3;
         static final int UNITS = 4;
-        private static final long NEVER = Long.MAX_VALUE;
+        // more days than anybody looks ahead
+        private static final long NEVER = MOST_DAYS_AHEAD + 1;
 
         int count = 0;
         final int[] debtors = new int[MOST_DEBTS];

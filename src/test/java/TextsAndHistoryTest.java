@@ -447,7 +447,7 @@ public final class TextsAndHistoryTest {
         x.addParty(1, 5);
         x.addParty(0, 6);
         x.addParty(1, 7);
-        x.claim(1, 2, 70);
+        x.claim(0, 1, 70);
         x.claim(1, 2, 80);
         x.restore();
         Check.due("parties", x.account(0), 2);
