@@ -1,5 +1,9 @@
+import java.util.function.IntConsumer;
+
 /** What all tests of the project use: it prints each answer that is not the one that is due. */
 final class Check {
+    static final int LEAST = Integer.MIN_VALUE;
+    static final int MOST = Integer.MAX_VALUE;
     static final Class<?> INDEX = IndexOutOfBoundsException.class;
     static final Class<?> ARGUMENT = IllegalArgumentException.class;
     static final Class<?> STATE = IllegalStateException.class;
@@ -9,8 +13,19 @@ final class Check {
 
     private static int asked = 0;
     private static int wrong = 0;
+    private static String sentence = "";
 
     private Check() {
+    }
+
+    /** The words of the document for which is asked from here on; they are printed with what is wrong. */
+    static void sentence(String words) {
+        sentence = " [" + words + "]";
+    }
+
+    /** Words of the section of a promise. */
+    static void promise(int number, String words) {
+        sentence("promise " + number + ": " + words);
     }
 
     static void due(String call, long got, long want) {
@@ -23,6 +38,13 @@ final class Check {
     static void dueDouble(String call, double got, double want) {
         asked++;
         if (Double.compare(got, want) != 0) {
+            fail(call + " answered " + got + ", due is " + want);
+        }
+    }
+
+    static void dueText(String call, String got, String want) {
+        asked++;
+        if (!got.equals(want)) {
             fail(call + " answered " + got + ", due is " + want);
         }
     }
@@ -41,6 +63,13 @@ final class Check {
         }
     }
 
+    /** Each of these numbers makes the call throw. */
+    static void eachThrows(String call, Class<?> want, IntConsumer what, int... numbers) {
+        for (int number : numbers) {
+            thrown(call + " of " + number, want, () -> what.accept(number));
+        }
+    }
+
     static void refused(String call, ArbitrationFees x, int reason, Runnable what) {
         thrown(call, REFUSED, what);
         due("reason() behind " + call, x.reason(), reason);
@@ -48,7 +77,7 @@ final class Check {
 
     static void fail(String text) {
         wrong++;
-        System.out.println("promise broken: " + text);
+        System.out.println("promise broken: " + text + sentence);
     }
 
     static void type(ArbitrationFees x, String text) {

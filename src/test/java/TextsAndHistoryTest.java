@@ -249,19 +249,6 @@ public final class TextsAndHistoryTest {
         Check.thrown("nothing more", Check.NONE, () -> x.undo());
     }
 
-    /** Counts the changes that are remembered by undoing all of them. */
-    private static int changesOf(ArbitrationFees x) {
-        int changes = 0;
-        while (true) {
-            try {
-                x.undo();
-            } catch (java.util.NoSuchElementException e) {
-                return changes;
-            }
-            changes++;
-        }
-    }
-
     private static void promise38Rates() {
         ArbitrationFees x = new ArbitrationFees();
         for (int i = 0; i < 4; i++) {
@@ -300,49 +287,18 @@ public final class TextsAndHistoryTest {
         return x;
     }
 
-    /** All that can be asked, as one text. */
-    private static String allOf(ArbitrationFees x) {
-        StringBuilder all = new StringBuilder();
-        for (int i = 0; i <= 11; i++) {
-            all.append(x.account(i)).append(' ');
-        }
-        for (int i = 0; i < x.account(0); i++) {
-            for (int what = 0; what <= 10; what++) {
-                all.append(x.party(i, what)).append(' ');
-            }
-        }
-        for (int i = 0; i < x.account(1); i++) {
-            for (int what = 0; what <= 6; what++) {
-                all.append(x.claimed(i, what)).append(' ');
-            }
-        }
-        for (int i = 0; i < x.account(2); i++) {
-            for (int what = 0; what <= 4; what++) {
-                all.append(x.debt(i, what)).append(' ');
-            }
-        }
-        for (int i = 0; i < 16; i++) {
-            try {
-                all.append(x.entry(i, false)).append('=').append(x.entry(i, true)).append(' ');
-            } catch (java.util.NoSuchElementException e) {
-                break;
-            }
-        }
-        return all.append(x.wouldBe(30000000)).toString();
-    }
-
     private static void isOneChange(String call, Step step) {
         ArbitrationFees x = halfWay();
-        String before = allOf(x);
+        String before = Answers.of(x);
         step.take(x);
-        Check.due("changes of " + call, changesOf(x), 1);
-        Check.due(call + " is undone", allOf(x).equals(before) ? 1 : 0, 1);
+        Check.due("changes of " + call, Answers.undoAll(x), 1);
+        Check.dueText(call + " is undone", Answers.of(x), before);
         step.take(x);
-        String after = allOf(x);
+        String after = Answers.of(x);
         x.save();
         x.clear();
         x.restore();
-        Check.due(call + " is saved", allOf(x).equals(after) ? 1 : 0, 1);
+        Check.dueText(call + " is saved", Answers.of(x), after);
     }
 
     private static void promise38Changes() {
@@ -381,14 +337,14 @@ public final class TextsAndHistoryTest {
 
     private static void isNoChange(String call, Step step) {
         ArbitrationFees x = halfWay();
-        String before = allOf(x);
+        String before = Answers.of(x);
         try {
             step.take(x);
         } catch (RuntimeException e) {
             // what is thrown is asked elsewhere
         }
-        Check.due(call + " leaves all", allOf(x).equals(before) ? 1 : 0, 1);
-        Check.due("changes of " + call, changesOf(x), 0);
+        Check.dueText(call + " leaves all", Answers.of(x), before);
+        Check.due("changes of " + call, Answers.undoAll(x), 0);
     }
 
     private static void promise38NoChanges() {
