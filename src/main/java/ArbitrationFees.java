@@ -103,7 +103,7 @@ public final class ArbitrationFees {
     }
 
     public long party(int party, int what) throws IndexOutOfBoundsException, IllegalArgumentException {
-        refuse(faultOfQuestion(present.parties.has(party), what, Accounts.LAST_OF_PARTY));
+        refuse(faultOfQuestion(present.parties.has(party), what, Parties.IS_OWED));
         return present.numberOfParty(party, what);
     }
 
@@ -505,9 +505,10 @@ public final class ArbitrationFees {
 
     /** All that the history remembers for a change. */
     private static final class Accounts {
-        static final int LAST_OF_PARTY = 10;
         static final int LAST_OF_SIDE = 3;
         static final int LAST_ACCOUNT = 11;
+        private static final int[] FIRST_RATES = {0, 400, 600, 900};
+        private static final int[] FIRST_TIERS = {1000, 500, 250, 100};
         // the sum from which on a tier counts
         private static final int[] TIER_FLOORS = {0, 1000000, 5000000, 20000000};
 
@@ -515,8 +516,8 @@ public final class ArbitrationFees {
         final Claims claims = new Claims();
         final Debts debts = new Debts();
         final Journal journal = new Journal();
-        final int[] rates = {0, 400, 600, 900};
-        final int[] tiers = {1000, 500, 250, 100};
+        final int[] rates = FIRST_RATES.clone();
+        final int[] tiers = FIRST_TIERS.clone();
         int day = 0;
         int stage = 0;
 
@@ -525,14 +526,8 @@ public final class ArbitrationFees {
             claims.count = 0;
             debts.count = 0;
             journal.count = 0;
-            rates[0] = 0;
-            rates[1] = 400;
-            rates[2] = 600;
-            rates[3] = 900;
-            tiers[0] = 1000;
-            tiers[1] = 500;
-            tiers[2] = 250;
-            tiers[3] = 100;
+            System.arraycopy(FIRST_RATES, 0, rates, 0, STAGES);
+            System.arraycopy(FIRST_TIERS, 0, tiers, 0, TIERS);
             day = 0;
             stage = 0;
         }
@@ -799,11 +794,11 @@ public final class ArbitrationFees {
 
         long numberOfParty(int party, int what) {
             switch (what) {
-                case 7:
+                case Parties.SHARE:
                     return shareOfParty(party);
-                case 9:
+                case Parties.OWES:
                     return debts.allOwedBy(party);
-                case 10:
+                case Parties.IS_OWED:
                     return debts.allOwedTo(party);
                 default:
                     return parties.numberOf(party, what);
@@ -862,7 +857,10 @@ public final class ArbitrationFees {
         static final int TAKEN = 4;
         static final int RETURNED = 5;
         static final int HELD = 6;
+        static final int SHARE = 7;
         static final int SHORT = 8;
+        static final int OWES = 9;
+        static final int IS_OWED = 10;
 
         int count = 0;
         final int[] sides = new int[MOST_PARTIES];
